@@ -852,9 +852,9 @@ public final class PondRings {
         private final long[] after = new long[MOST * MOST];
         /** At i and j: bit 63 - d, when wish j thrown d minutes before wish i meets it. */
         private final long[] before = new long[MOST * MOST];
-        private final int[] members = new int[MOST];
-        /** A row for each number of members that have their minutes: the minutes that are left to the others. */
+        /** A row for each number of wishes that have their minutes: the minutes that are left to the others. */
         private final long[] left = new long[MOST * MOST];
+        private final int[] weights = new int[MOST];
         private boolean planned;
         final int[] minutes = new int[MOST];
         final int[] plan = new int[MOST];
@@ -920,13 +920,29 @@ public final class PondRings {
             if (planned) {
                 return;
             }
+            int all = (1 << count) - 1;
             int last = widestPair(count);
-            while (!canThrow((1 << count) - 1, last) && last < LAST) {
+            while (!canThrow(all, last) && last < LAST) {
                 last++;
             }
-            System.arraycopy(minutes, 0, plan, 0, MOST);
             lastOfPlan = last;
+            for (int w = 0; w < count; w++) {
+                plan[w] = firstThatWillDo(w, all >> w + 1 << w + 1);
+            }
             planned = true;
+        }
+
+        /** The least minute for a wish, those ahead of it having theirs, by which the others can have theirs, too. */
+        private int firstThatWillDo(int w, int others) {
+            long open = left[w * MOST + w];
+            for (int tries = Long.bitCount(open); tries > 0; tries--) {
+                int minute = lowestBit(open);
+                open &= open - 1;
+                if (leavesRoom(w, others, w, minute) && canPlace(w + 1, others)) {
+                    return minute;
+                }
+            }
+            return 0;
         }
 
         /** No plan for all is over sooner than one for two of them. */
@@ -952,45 +968,74 @@ public final class PondRings {
             return 0;
         }
 
-        /** Whether a set can be thrown in minutes 0 to last; the first such row of minutes is left in minutes. */
         private boolean canThrow(int set, int last) {
-            int size = 0;
+            Arrays.fill(left, 0, MOST, -1L >>> LAST - last);
             for (int w = 0; w < MOST; w++) {
-                if ((set >> w & 1) != 0) {
-                    members[size] = w;
-                    left[size] = -1L >>> LAST - last;
-                    size++;
-                }
+                weights[w] = weightIn(set, w);
             }
-            return placeFrom(0, size);
+            return canPlace(0, set);
         }
 
-        /** Gives their minutes to all members from one on; the depth is that of the set, six at most. */
-        private boolean placeFrom(int m, int size) {
-            if (m >= size || m >= MOST) {
+        /** From how many minutes a wish keeps the others of a set. */
+        private int weightIn(int set, int w) {
+            int weight = 0;
+            for (int o = 0; o < MOST; o++) {
+                if (o != w && (set >> o & 1) != 0) {
+                    weight += Long.bitCount(after[w * MOST + o]) + Long.bitCount(before[w * MOST + o]);
+                }
+            }
+            return weight;
+        }
+
+        /** Whether all that wait can have their minutes, when placed others have theirs; six have them at most. */
+        private boolean canPlace(int placed, int waiting) {
+            if (waiting == 0 || placed >= MOST) {
                 return true;
             }
-            long open = left[m * MOST + m];
+            int w = tightest(placed, waiting);
+            int others = waiting & ~(1 << w);
+            long open = left[placed * MOST + w];
             for (int tries = Long.bitCount(open); tries > 0; tries--) {
                 int minute = lowestBit(open);
                 open &= open - 1;
-                minutes[members[m]] = minute;
-                if (leavesRoom(m, size, minute) && placeFrom(m + 1, size)) {
+                if (leavesRoom(placed, others, w, minute) && canPlace(placed + 1, others)) {
                     return true;
                 }
             }
             return false;
         }
 
-        private boolean leavesRoom(int m, int size, int minute) {
-            for (int o = m + 1; o < size; o++) {
-                int pair = members[m] * MOST + members[o];
-                long taken = after[pair] << minute | before[pair] >>> LAST - minute;
-                long rest = left[m * MOST + o] & ~taken;
-                if (rest == 0) {
-                    return false;
+        /**
+         * The one with the fewest minutes left, of several the one that keeps the others from the most: with it
+         * first, what can't be is found out soonest.
+         */
+        private int tightest(int placed, int waiting) {
+            int best = lowestBit(waiting);
+            int fewest = Long.bitCount(left[placed * MOST + best]);
+            for (int w = best + 1; w < MOST; w++) {
+                if ((waiting >> w & 1) != 0) {
+                    int few = Long.bitCount(left[placed * MOST + w]);
+                    if (few < fewest || few == fewest && weights[w] > weights[best]) {
+                        best = w;
+                        fewest = few;
+                    }
                 }
-                left[(m + 1) * MOST + o] = rest;
+            }
+            return best;
+        }
+
+        /** Takes from the others the minutes in which they would meet a wish: whether each still has one. */
+        private boolean leavesRoom(int placed, int others, int w, int minute) {
+            for (int o = 0; o < MOST; o++) {
+                if ((others >> o & 1) != 0) {
+                    int pair = w * MOST + o;
+                    long taken = after[pair] << minute | before[pair] >>> LAST - minute;
+                    long rest = left[placed * MOST + o] & ~taken;
+                    if (rest == 0) {
+                        return false;
+                    }
+                    left[(placed + 1) * MOST + o] = rest;
+                }
             }
             return true;
         }
