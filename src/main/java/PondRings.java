@@ -25,7 +25,7 @@ public final class PondRings {
     private final Listing reeds;
     private final Meeting meeting;
     private final Timetable timetable;
-    /** For each wish the set of those that it meets when both are thrown in one minute. */
+    /** For each wish the set of those ahead of it that it meets when both are thrown in one minute. */
     private final int[] clashes;
     private int traced;
     private int latestFault;
@@ -137,7 +137,8 @@ public final class PondRings {
         if (!stones.has(s) || minute < 0 || minute > LAST_RING_MINUTE) {
             return LOST;
         }
-        return lake.ringAt(stones.places[s], stones.reach(s), minute - stones.minutes[s]);
+        int lasts = lake.lasts(stones.places[s], stones.reach(s));
+        return lake.ringAt(stones.places[s], lasts, minute - stones.minutes[s]);
     }
 
     public int meet(int s, int other, int what) {
@@ -525,8 +526,7 @@ public final class PondRings {
         Arrays.fill(clashes, 0);
         for (int a = 0; a < wishes.count; a++) {
             for (int b = a + 1; b < wishes.count; b++) {
-                if (meeting.ofWishes(lake, wishes, a, b, 0)) {
-                    clashes[a] |= 1 << b;
+                if (meeting.ofTwo(lake, wishes, a, b, 0)) {
                     clashes[b] |= 1 << a;
                 }
             }
@@ -663,7 +663,7 @@ public final class PondRings {
     private static final class Pond {
         static final int MOST_CELLS = 42;
 
-        /** At a cell's row and a distance: the cells as far as that from it; good where ready has the cell's bit. */
+        /** At a cell's row and a distance: the cells as far as that from it, where ready has the cell's bit. */
         private final long[] ripples = new long[MOST_CELLS * MOST_CELLS];
         /** For each ready cell, how many distances there are with any cell so far from it. */
         private final int[] depths = new int[MOST_CELLS];
@@ -695,15 +695,15 @@ public final class PondRings {
         }
 
         boolean isWater(int c) {
-            return has(c) && (water >>> c & 1) != 0;
+            return c >= 0 && c < cells && (water >>> c & 1) != 0;
         }
 
         int steps(int a, int b) {
             if (!isWater(a) || !isWater(b)) {
                 return NONE;
             }
-            makeReady(a);
-            for (int distance = 0; distance < depths[a]; distance++) {
+            int depth = lasts(a, MOST_CELLS);
+            for (int distance = 0; distance < depth; distance++) {
                 if ((ripples[a * MOST_CELLS + distance] >>> b & 1) != 0) {
                     return distance;
                 }
@@ -711,43 +711,35 @@ public final class PondRings {
             return NONE;
         }
 
-        /** The cells at which a ring of a reach is at an age, in minutes since it was thrown. */
-        long ringAt(int c, int reach, int age) {
-            if (age < 0 || age >= lasts(c, reach)) {
-                return 0;
-            }
-            return ripples[c * MOST_CELLS + age];
-        }
-
-        /** For how many minutes a ring is anywhere. */
+        /** For how many minutes a ring of a reach is anywhere. */
         int lasts(int c, int reach) {
             if (!isWater(c)) {
                 return 0;
             }
-            makeReady(c);
+            if ((ready >>> c & 1) == 0) {
+                spread(c);
+            }
             return Math.min(depths[c], reach + 1);
         }
 
-        private void makeReady(int c) {
-            if ((ready >>> c & 1) != 0) {
-                return;
-            }
-            ready |= 1L << c;
+        /** The cells at which a ring that lasts so many minutes is, an age after it was thrown. */
+        long ringAt(int c, int lasts, int age) {
+            return has(c) && age >= 0 && age < lasts ? ripples[c * MOST_CELLS + age] : 0;
+        }
+
+        private void spread(int c) {
             long front = 1L << c;
             long seen = front;
             int depth = 0;
             while (front != 0 && depth < MOST_CELLS) {
                 ripples[c * MOST_CELLS + depth] = front;
                 depth++;
-                front = beside(front) & water & ~seen;
+                long inRows = (front & ~lastColumn) << 1 | (front & ~firstColumn) >>> 1;
+                front = (inRows | front << wide | front >>> wide) & water & ~seen;
                 seen |= front;
             }
             depths[c] = depth;
-        }
-
-        private long beside(long set) {
-            long inRows = (set & ~lastColumn) << 1 | (set & ~firstColumn) >>> 1;
-            return inRows | set << wide | set >>> wide;
+            ready |= 1L << c;
         }
 
         /** Of all two cells beside one another, one of each set: the lesser ones. */
@@ -805,7 +797,7 @@ public final class PondRings {
 
         boolean ofStones(Pond pond, Listing stones, int a, int b) {
             int gap = stones.minutes[b] - stones.minutes[a];
-            boolean found = gap >= 0 ? ofWishes(pond, stones, a, b, gap) : ofWishes(pond, stones, b, a, -gap);
+            boolean found = gap >= 0 ? ofTwo(pond, stones, a, b, gap) : ofTwo(pond, stones, b, a, -gap);
             if (found) {
                 minute += Math.min(stones.minutes[a], stones.minutes[b]);
             }
@@ -813,19 +805,18 @@ public final class PondRings {
         }
 
         /** The late one is thrown gap minutes after the early one, which is thrown in minute 0. */
-        boolean ofWishes(Pond pond, Listing rings, int early, int late, int gap) {
+        boolean ofTwo(Pond pond, Listing rings, int early, int late, int gap) {
             int earlyPlace = rings.places[early];
             int latePlace = rings.places[late];
-            int earlyReach = rings.reach(early);
-            int lateReach = rings.reach(late);
-            int minutes = Math.min(pond.lasts(earlyPlace, earlyReach) - gap, pond.lasts(latePlace, lateReach));
-            for (int age = 0; age < minutes; age++) {
-                long one = pond.ringAt(earlyPlace, earlyReach, age + gap);
-                long other = pond.ringAt(latePlace, lateReach, age);
+            int earlyLasts = pond.lasts(earlyPlace, rings.reach(early));
+            int lateLasts = pond.lasts(latePlace, rings.reach(late));
+            for (int age = 0; age < lateLasts && age + gap < earlyLasts; age++) {
+                long one = pond.ringAt(earlyPlace, earlyLasts, age + gap);
+                long other = pond.ringAt(latePlace, lateLasts, age);
                 long met = one & other;
                 if (met == 0) {
-                    long oneNext = pond.ringAt(earlyPlace, earlyReach, age + gap + 1);
-                    long otherNext = pond.ringAt(latePlace, lateReach, age + 1);
+                    long oneNext = pond.ringAt(earlyPlace, earlyLasts, age + gap + 1);
+                    long otherNext = pond.ringAt(latePlace, lateLasts, age + 1);
                     met = pond.lesserBeside(one & otherNext, other & oneNext);
                 }
                 if (met != 0) {
@@ -877,7 +868,7 @@ public final class PondRings {
             long mirrored = 0;
             int minutesOfFirst = pond.lasts(wishes.places[i], wishes.reach(i));
             for (int gap = 0; gap < minutesOfFirst; gap++) {
-                if (meeting.ofWishes(pond, wishes, i, j, gap)) {
+                if (meeting.ofTwo(pond, wishes, i, j, gap)) {
                     gaps |= 1L << gap;
                     mirrored |= 1L << LAST - gap;
                 }
@@ -969,7 +960,7 @@ public final class PondRings {
         }
 
         private boolean canThrow(int set, int last) {
-            Arrays.fill(left, 0, MOST, -1L >>> LAST - last);
+            Arrays.fill(left, -1L >>> LAST - last);
             for (int w = 0; w < MOST; w++) {
                 weights[w] = weightIn(set, w);
             }

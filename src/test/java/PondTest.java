@@ -142,6 +142,15 @@ public final class PondTest {
         due.is("anew: the sheet stays", x.cell(0, 0, 0), 'p');
         due.is("anew: wish(0, 0)", x.wish(0, 0), 0);
         due.is("anew: soonest(-1) of one", x.soonest(-1), 0);
+        due.is("before: far(0, 2)", x.far(0, 2), 2);
+        due.is("a longer pond", Ponds.read(x, "p32;..;.#;.."), 6);
+        due.is("anew: far(0, 5)", x.far(0, 5), 3);
+        due.is("anew: far(1, 5)", x.far(1, 5), 4);
+        due.is("a wrong text between", Ponds.read(x, "p13;..x"), -106);
+        due.is("a pond of less water", Ponds.read(x, "p13;#.#"), 3);
+        due.is("anew: water(0)", x.water(0), 0);
+        due.is("anew: water(1)", x.water(1), 1);
+        due.is("anew: far(0, 2)", x.far(0, 2), PondRings.NONE);
     }
 
     private static void sorts() {

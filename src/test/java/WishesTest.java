@@ -139,6 +139,8 @@ public final class WishesTest {
         PondRings x = Ponds.with("p15;.....");
         due.is("alone(-1) of none", x.alone(-1), PondRings.NONE);
         due.is("alone(0) of none", x.alone(0), PondRings.UNKNOWN);
+        due.is("alone(-1) of one", wishes("p12;..", 0, 1).alone(-1), 0);
+        due.is("alone(-1) across land", wishes("p13;.#.", 0, 0, 0, 2).alone(-1), 0);
         x = wishes("p15;.....", 0, 2, 0, 0, 0, 4, 0, 1);
         int[] want = {0, 3, 8, 12};
         for (int w = 0; w < 4; w++) {
