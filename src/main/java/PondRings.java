@@ -843,8 +843,8 @@ public final class PondRings {
         private final long[] after = new long[MOST * MOST];
         /** At i and j: bit 63 - d, when wish j thrown d minutes before wish i meets it. */
         private final long[] before = new long[MOST * MOST];
-        /** A row for each number of wishes that have their minutes: the minutes that are left to the others. */
-        private final long[] left = new long[MOST * MOST];
+        /** A row for each number, 0 to all, of wishes that have their minutes: those that are left to the others. */
+        private final long[] left = new long[(MOST + 1) * MOST];
         private final int[] weights = new int[MOST];
         private boolean planned;
         final int[] minutes = new int[MOST];
