@@ -1,7 +1,10 @@
 import java.util.ArrayList;
 import java.util.List;
 
-/** All that can be seen of an object but its FAULT, which looking changes. The object is used up by it. */
+/**
+ * An object seen from all sides: pond, stones, wishes, plans, sheets, reeds, TRACE; not its FAULT, which looking
+ * changes. The object is used up by it.
+ */
 final class Look {
     private final PondRings x;
     private final List<String> seen = new ArrayList<>();
