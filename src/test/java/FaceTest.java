@@ -27,9 +27,33 @@ public final class FaceTest {
         constants();
         face();
         membersThatAreNotPublic();
-        source(Files.readString(Path.of("src/main/java/PondRings.java")));
+        String text = Files.readString(Path.of("src/main/java/PondRings.java"));
+        source(text);
+        headings(text);
         nothingIsMadeByCalls();
         due.end();
+    }
+
+    /** The calls in the document's order, each group under the heading that the document tells. */
+    private static void headings(String text) {
+        String[] heads = {"---- 1 the pond", "---- 2 stones", "---- 3 wishes", "---- 4 reeds, digging",
+            "---- 5 sheets, parts"};
+        String[] firsts = {"pond", "stone", "wish", "reed", "sheet"};
+        int at = 0;
+        int group = 0;
+        for (String told : FACE.split(",\\s+")) {
+            String name = told.substring(told.indexOf(' ') + 1, told.indexOf('('));
+            if (group < firsts.length && name.equals(firsts[group])) {
+                due.says(0, heads[group]);
+                yes(heads[group] + " ahead of " + name, text.indexOf(heads[group], at) > at);
+                at = Math.max(at, text.indexOf(heads[group], at));
+                group++;
+            }
+            int next = text.indexOf(" " + name + "(", at);
+            yes(name + " follows under " + heads[group - 1], next > at);
+            at = Math.max(at, next);
+        }
+        due.is("groups of calls", group, heads.length);
     }
 
     private static void yes(String what, boolean is) {
